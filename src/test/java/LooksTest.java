@@ -4,6 +4,7 @@ public final class LooksTest {
         promise16Clock();
         promise16PullsRoundTowardsZero();
         promise16Groups();
+        promise16LongestChains();
         promise16Wrong();
         promise17Gap();
         promise17NearAndLocked();
@@ -107,6 +108,31 @@ public final class LooksTest {
         Checks.due("groups by joining", x.count(4), 7);
         Checks.due("groups by walking", x.count(5), 7);
         Checks.due("clocks of the greatest group", x.count(6), 2);
+    }
+
+    /** All eight clocks in one chain, by their numbers and crosswise, so that each end is seven steps from the other. */
+    private static void promise16LongestChains() {
+        int[][] orders = {{0, 1, 2, 3, 4, 5, 6, 7}, {7, 6, 5, 4, 3, 2, 1, 0}, {3, 7, 0, 5, 1, 6, 2, 4}};
+        for (int[] order : orders) {
+            TandemClocks x = Checks.withoutPulls();
+            for (int place = 0; place < 8; place++) {
+                if (x.clock(order[place], 0) != 0) {
+                    x.move(order[place], 0);
+                }
+                x.speed(order[place], 30);
+                Checks.putPhase(x, order[place], 30 * place);
+            }
+            x.pass(8);
+            Checks.due("pairs of a chain", x.count(3), 7);
+            Checks.due("groups by joining", x.count(4), 1);
+            Checks.due("groups by walking", x.count(5), 1);
+            Checks.due("clocks of the greatest group", x.count(6), 8);
+            for (int k = 0; k < 8; k++) {
+                Checks.due("group of " + k, x.clock(k, 10), 255);
+                Checks.due("lowest of the group of " + k, x.clock(k, 9), 0);
+            }
+            Checks.due("group behind one tick more", x.ifPassed(1, 0, 2), 255);
+        }
     }
 
     private static void promise16Wrong() {
