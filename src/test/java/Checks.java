@@ -10,6 +10,7 @@ final class Checks {
 
     private static int wrong = 0;
     private static int checked = 0;
+    private static String heading = "";
 
     private Checks() {
     }
@@ -28,9 +29,21 @@ final class Checks {
         }
     }
 
+    static void dueText(String what, String got, String want) {
+        checked++;
+        if (!got.equals(want)) {
+            tell(what + " " + got + ", due is " + want);
+        }
+    }
+
     static void tell(String what) {
         wrong++;
-        System.out.println(what);
+        System.out.println(heading + what);
+    }
+
+    /** What is told from here on is told with this ahead of it. */
+    static void under(String newHeading) {
+        heading = newHeading;
     }
 
     /** The call throws just this class, and nothing that can be seen of the object is another behind it. */

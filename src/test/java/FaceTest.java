@@ -123,19 +123,25 @@ public final class FaceTest {
         }
     }
 
-    /** 512 of the dearest calls make next to nothing, as all rows are made by the constructor. */
+    /** The dearest calls make next to nothing, as all rows are made by the constructor. */
     private static void theRoom() {
         com.sun.management.ThreadMXBean threads = (com.sun.management.ThreadMXBean) ManagementFactory.getThreadMXBean();
-        TandemClocks x = new TandemClocks();
-        callAll(x);
+        TandemClocks[] all = new TandemClocks[10];
+        for (int at = 0; at < all.length; at++) {
+            all[at] = new TandemClocks();
+            callAll(all[at]);
+        }
         long before = threads.getCurrentThreadAllocatedBytes();
-        for (int times = 0; times < 512; times++) {
-            callAll(x);
+        for (TandemClocks x : all) {
+            for (int times = 0; times < 50; times++) {
+                callAll(x);
+            }
         }
         long made = threads.getCurrentThreadAllocatedBytes() - before;
         Checks.due("made many bytes: " + made, made > 64 * 1024 ? 1 : 0, 0);
     }
 
+    /** Ten calls. */
     private static void callAll(TandemClocks x) {
         x.append('t');
         x.append('9');

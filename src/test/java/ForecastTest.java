@@ -219,16 +219,25 @@ public final class ForecastTest {
         Checks.due("digest of a new one", x.digest(), digestByLooks(x, false, ""));
         Checks.write(x, "t9;k");
         Checks.due("with a buffer", x.digest(), digestByLooks(x, false, "t9;k"));
-        x.keep();
-        Checks.due("with a snapshot", x.digest(), digestByLooks(x, true, "t9;k"));
-        TandemClocks y = drawnTogether();
-        for (int times = 0; times < 60; times++) {
-            y.pass(times + 1);
-            y.kick(times % 8, times * 7 - 200 == 0 ? 1 : times * 7 - 200);
+        TandemClocks kept = new TandemClocks();
+        Checks.write(kept, "t9;k");
+        kept.keep();
+        Checks.due("with a snapshot", kept.digest(), digestByLooks(kept, true, "t9;k"));
+        for (int times = 1; times <= 60; times++) {
+            TandemClocks y = passedAndKicked(times);
             Checks.due("digest " + times, y.digest(), digestByLooks(y, false, ""));
         }
         TandemClocks z = Checks.runDown();
         Checks.due("digest, none goes", z.digest(), digestByLooks(z, false, ""));
+    }
+
+    private static TandemClocks passedAndKicked(int often) {
+        TandemClocks x = drawnTogether();
+        for (int times = 0; times < often; times++) {
+            x.pass(times + 1);
+            x.kick(times % 8, times * 7 - 201);
+        }
+        return x;
     }
 
     private static long hash;
@@ -237,7 +246,7 @@ public final class ForecastTest {
         hash = 31 * hash + value;
     }
 
-    private static long digestByLooks(TandemClocks x, boolean kept, String buffer) {
+    static long digestByLooks(TandemClocks x, boolean kept, String buffer) {
         hash = 3659;
         for (int what = 0; what <= 9; what++) {
             mix(x.count(what));

@@ -7,7 +7,7 @@ import java.util.Map;
 
 /** Holds the class against the model in long runs of calls that are the same each time. */
 public final class ModelTest {
-    private static final int RUNS = 160;
+    private static final int RUNS = 300;
     private static final int CALLS = 512;
     private static final int[] ODD = {-1, -2, 8, 3, 61, 201, 501, -501, 127, 1000, Integer.MIN_VALUE, Integer.MAX_VALUE};
     private static final String[] PARTS = {
@@ -48,7 +48,7 @@ public final class ModelTest {
 
     private boolean agrees(int run) {
         begin();
-        for (int at = told.size(); at < CALLS; at++) {
+        for (int at = 0; told.size() < CALLS; at++) {
             String name = nextName();
             Method method = ofModel.get(name);
             Object[] arguments = new Object[method.getParameterCount()];
@@ -59,7 +59,7 @@ public final class ModelTest {
                 return false;
             }
         }
-        return same(run, "digest");
+        return true;
     }
 
     /** Half the runs bring the clocks into step; one in four lets springs run down. */
@@ -157,7 +157,14 @@ public final class ModelTest {
         }
     }
 
-    private boolean same(int run, String name, Object... arguments) {
+    /** Makes the call on both, but the last one is a digest, and what comes behind the 512th is free. */
+    private boolean same(int run, String next, Object... given) {
+        if (told.size() >= CALLS) {
+            return true;
+        }
+        boolean last = told.size() == CALLS - 1;
+        String name = last ? "digest" : next;
+        Object[] arguments = last ? new Object[0] : given;
         told.add(name + java.util.Arrays.toString(arguments));
         String got = answer(ofClass.get(name), x, arguments);
         String want = answer(ofModel.get(name), model, arguments);

@@ -91,10 +91,8 @@ public final class TextTest {
             "01234567", ";", "123456789", "0123456789;", ";", "kbwt"};
         for (int place = 0; place < begun.length; place++) {
             String before = begun[place];
-            TandemClocks x = new TandemClocks();
             for (int code = 33; code <= 126; code++) {
-                x.clearBuffer();
-                Checks.write(x, before);
+                TandemClocks x = Bounds.written(before);
                 x.append(code);
                 boolean wanted = place == 6 ? code == ';' || code >= '0' && code <= '9' : taken[place].indexOf(code) >= 0;
                 int error = before.length() + (wanted ? 1 : 0);
@@ -172,9 +170,8 @@ public final class TextTest {
         Checks.due("in place of the one that was", x.goBack(), 7);
     }
 
-    private static void promise14GoBack() {
+    private static TandemClocks changed() {
         TandemClocks x = new TandemClocks();
-        Checks.dueThrow("goBack without snapshot", x, Checks.STATE, () -> x.goBack());
         x.move(0, 1);
         x.give(1, 7);
         x.set(1, 77);
@@ -183,7 +180,12 @@ public final class TextTest {
         x.pass(20);
         x.kick(2, 5);
         x.keep();
-        int[] clock = tellAll(x);
+        return x;
+    }
+
+    private static void promise14GoBack() {
+        int[] all = tellAll(changed());
+        TandemClocks x = changed();
         x.move(0, 2);
         x.give(1, 8);
         x.set(1, 78);
@@ -191,11 +193,11 @@ public final class TextTest {
         x.kick(2, 6);
         x.pass(50);
         Checks.due("goBack", x.goBack(), 20);
-        dueAll("goBack", tellAll(x), clock);
+        dueAll("goBack", tellAll(x), all);
         Checks.due("saved", x.count(9), 6);
         x.pass(2);
         Checks.due("the snapshot stays", x.goBack(), 20);
-        dueAll("goBack again", tellAll(x), clock);
+        dueAll("goBack again", tellAll(x), all);
         Checks.due("undo of goBack", x.undo(), 5);
         Checks.due("ticks behind it", x.count(0), 22);
         x.undo();
@@ -233,18 +235,24 @@ public final class TextTest {
         }
     }
 
-    private static void promise15Undo() {
+    private static TandemClocks passed(int deeds) {
         TandemClocks x = new TandemClocks();
-        int[][] before = new int[8][];
-        for (int deed = 0; deed < 8; deed++) {
-            before[deed] = tellAll(x);
+        for (int deed = 0; deed < deeds; deed++) {
             x.pass(deed + 30);
             Checks.due("saved", x.count(9), Math.min(deed + 1, 6));
         }
-        for (int deed = 7; deed >= 2; deed--) {
-            Checks.due("undo", x.undo(), deed - 2);
-            dueAll("undo of deed " + deed, tellAll(x), before[deed]);
+        return x;
+    }
+
+    private static void promise15Undo() {
+        for (int undone = 1; undone <= 6; undone++) {
+            TandemClocks x = passed(8);
+            for (int times = 1; times <= undone; times++) {
+                Checks.due("undo", x.undo(), 6 - times);
+            }
+            dueAll("undo of " + undone, tellAll(x), tellAll(passed(8 - undone)));
         }
+        TandemClocks x = new TandemClocks();
         Checks.dueThrow("undo without saved states", x, Checks.STATE, () -> x.undo());
         x.pass(1);
         x.pass(1);
@@ -253,7 +261,7 @@ public final class TextTest {
         Checks.due("undo of what came behind an undo", x.undo(), 1);
         Checks.due("kicks", x.count(7), 0);
         Checks.due("undo", x.undo(), 0);
-        dueAll("undo of all", tellAll(x), before[2]);
+        dueAll("undo of all", tellAll(x), tellAll(new TandemClocks()));
     }
 
     private static void promise15UndoLeavesBufferAndSnapshot() {
