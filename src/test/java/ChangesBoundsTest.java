@@ -8,6 +8,7 @@ public final class ChangesBoundsTest {
         promise2Undoable();
         promise3WhetherItGoesOrNot();
         promise3Modulo1000();
+        promise3PhaseThen();
         promise3DoesNotStrike();
         promise3Clock();
         promise3By();
@@ -17,6 +18,7 @@ public final class ChangesBoundsTest {
         promise4HangsOnItAlready();
         promise4Undoable();
         promise5SpringIs99();
+        promise5ByHowMuchMore();
         promise5Clock();
         promise5Undoable();
         promise6Speed();
@@ -118,17 +120,28 @@ public final class ChangesBoundsTest {
         Checks.due("its spring", x.clock(3, 3), 0);
     }
 
+    /** A phase, a kick, and the phase that is due behind it. */
+    private static final int[][] KICKS = {
+        {0, -1, 999}, {0, 1, 1}, {0, 500, 500}, {0, -500, 500}, {1, -1, 0}, {1, -2, 999}, {499, 500, 999}, {499, -499, 0},
+        {499, -500, 999}, {500, 499, 999}, {500, 500, 0}, {500, -500, 0}, {501, 499, 0}, {998, 1, 999}, {999, 1, 0},
+        {999, 2, 1}, {999, 500, 499}};
+
     private static void promise3Modulo1000() {
         Bounds.hold("Promise 3", "its phase becomes more by a number, modulo 1000 (from 0 to 999).");
-        Bounds.hold("Promise 3", "Returns its phase then.");
-        int[] phases = {0, 0, 0, 0, 1, 1, 499, 499, 499, 500, 500, 500, 501, 998, 999, 999, 999};
-        int[] kicks = {-1, 1, 500, -500, -1, -2, 500, -499, -500, 499, 500, -500, 499, 1, 1, 2, 500};
-        int[] due = {999, 1, 500, 500, 0, 999, 999, 0, 999, 999, 0, 0, 0, 999, 0, 1, 499};
-        for (int at = 0; at < phases.length; at++) {
+        for (int[] kick : KICKS) {
             TandemClocks x = new TandemClocks();
-            Checks.putPhase(x, 5, phases[at]);
-            Checks.due("kick by " + kicks[at] + " at " + phases[at], x.kick(5, kicks[at]), due[at]);
-            Checks.due("phase then", x.clock(5, 2), due[at]);
+            Checks.putPhase(x, 5, kick[0]);
+            x.kick(5, kick[1]);
+            Checks.due("phase behind a kick by " + kick[1] + " at " + kick[0], x.clock(5, 2), kick[2]);
+        }
+    }
+
+    private static void promise3PhaseThen() {
+        Bounds.hold("Promise 3", "Returns its phase then.");
+        for (int[] kick : KICKS) {
+            TandemClocks x = new TandemClocks();
+            Checks.putPhase(x, 5, kick[0]);
+            Checks.due("kick by " + kick[1] + " at " + kick[0], x.kick(5, kick[1]), kick[2]);
         }
     }
 
@@ -237,18 +250,27 @@ public final class ChangesBoundsTest {
 
     private static void promise5SpringIs99() {
         Bounds.hold("Promise 5", "its spring is 99 then.");
+        TandemClocks x = new TandemClocks();
+        x.wind(0);
+        Checks.due("from 50", x.clock(0, 3), 99);
+        x.wind(0);
+        Checks.due("from 99", x.clock(0, 3), 99);
+        TandemClocks down = Checks.runDown();
+        down.wind(7);
+        Checks.due("from 0", down.clock(7, 3), 99);
+        TandemClocks one = Bounds.beforeLastStrike(0, 3);
+        one.wind(0);
+        Checks.due("from 1", one.clock(0, 3), 99);
+    }
+
+    private static void promise5ByHowMuchMore() {
         Bounds.hold("Promise 5", "Returns by how much its spring becomes more.");
         TandemClocks x = new TandemClocks();
         Checks.due("at 50", x.wind(0), 49);
-        Checks.due("spring", x.clock(0, 3), 99);
         Checks.due("at 99", x.wind(0), 0);
-        Checks.due("spring", x.clock(0, 3), 99);
-        TandemClocks down = Checks.runDown();
-        Checks.due("at 0", down.wind(7), 99);
-        Checks.due("spring", down.clock(7, 3), 99);
+        Checks.due("at 0", Checks.runDown().wind(7), 99);
         TandemClocks one = Bounds.beforeLastStrike(0, 3);
         Checks.due("at 1", one.wind(0), 98);
-        Checks.due("spring", one.clock(0, 3), 99);
         one.pass(1);
         Checks.due("98 behind a strike", one.clock(0, 3), 98);
         Checks.due("at 98", one.wind(0), 1);

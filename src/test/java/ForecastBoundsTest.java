@@ -233,6 +233,9 @@ public final class ForecastBoundsTest {
         Checks.due("groups with 19", groupsBehind(most, 2, 19, 100), 8);
         Checks.due("groups with 20", groupsBehind(most, 2, 20, 100), 7);
         Checks.due("the most, 20", planned(most).bestGive(2), 20);
+        int[] beyond = {6, 29, 13, 55, 50};
+        Checks.due("groups with 20", groupsBehind(beyond, 2, 20, 100), 8);
+        Checks.due("21 would be better, but is no give", planned(beyond).bestGive(2), 0);
         int[] least = {9, 0, 8, 30, 30};
         TandemClocks x = planned(least);
         x.give(2, 20);

@@ -28,6 +28,7 @@ public final class LooksBoundsTest {
         promise19Strikes();
         promise19ClocksThatGo();
         promise19PairsAndGroups();
+        promise19JoinedByAThird();
         promise19Kicks();
         promise19TicksWithAStrike();
         promise19SavedStates();
@@ -376,8 +377,17 @@ public final class LooksBoundsTest {
         Checks.putPhase(up, 2, 100);
         Checks.putPhase(up, 5, 200);
         Checks.due("9, 9 and -9", up.beam(2, 3), 9);
-        TandemClocks none = Bounds.inOneRow(0);
-        Checks.due("no clock", none.beam(1, 3), 0);
+        TandemClocks all = Bounds.inOneRow(0);
+        Checks.due("no clock", all.beam(1, 3), 0);
+        all.give(0, 1);
+        all.kick(0, 100);
+        Checks.due("no whole pull", all.beam(0, 3), 0);
+        all.kick(0, 400);
+        Checks.due("the first one -14 to -9, the others -2", all.beam(0, 3), -9 - 14);
+        TandemClocks last = Bounds.inOneRow(0);
+        last.give(0, 1);
+        last.kick(7, 500);
+        Checks.due("the last one -14 to -9, the others -2", last.beam(0, 3), -9 - 14);
         TandemClocks down = Checks.runDown();
         down.give(2, 20);
         Checks.putPhase(down, 2, 0);
@@ -393,6 +403,16 @@ public final class LooksBoundsTest {
         int[] gaps = {0, 1, -1, 499, -499, -500};
         for (int gap : gaps) {
             Checks.due("a gap of " + gap, Bounds.two(4, gap).beam(2, 4), Math.abs(gap));
+        }
+        for (int clock = 0; clock < 8; clock++) {
+            for (int other = clock + 1; other < 8; other++) {
+                TandemClocks row = Bounds.inOneRow(0);
+                row.move(clock, 2);
+                row.move(other, 2);
+                row.kick(other, 250);
+                Checks.due("the gap of " + clock + " and " + other, row.beam(2, 4), 250);
+                Checks.due("no gap of the others", row.beam(0, 4), 0);
+            }
         }
         TandemClocks x = new TandemClocks();
         Checks.due("the widest of three: 300, 300, 400", x.beam(0, 4), 400);
@@ -487,6 +507,33 @@ public final class LooksBoundsTest {
         dueGroups(chain, 1, 7, 2);
         chain.move(4, 1);
         dueGroups(chain, 0, 8, 1);
+    }
+
+    /** Clocks j and k are locked with the last one of three, and not with each other. */
+    private static void promise19JoinedByAThird() {
+        Bounds.hold("Promise 19", "at first each clock is a group, and for each pair of locked clocks both groups become one");
+        int[][] threes = {{0, 1, 2}, {0, 7, 4}, {6, 7, 0}, {1, 0, 7}, {2, 5, 3}};
+        for (int[] three : threes) {
+            TandemClocks x = Bounds.inOneRow(0);
+            for (int clock = 0; clock < 8; clock++) {
+                x.move(clock, 1);
+            }
+            int[] phases = {0, 80, 40};
+            for (int place = 0; place < 3; place++) {
+                x.move(three[place], 2);
+                Checks.putPhase(x, three[place], phases[place]);
+            }
+            for (int clock = 0; clock < 8; clock++) {
+                if (x.clock(clock, 0) == 1) {
+                    Checks.putPhase(x, clock, 110 * clock);
+                }
+            }
+            x.pass(8);
+            dueGroups(x, 2, 6, 3);
+            dueGroups(x, 2, 6, 3);
+            x.set(2, 9);
+            dueGroups(x, 0, 8, 1);
+        }
     }
 
     private static void dueGroups(TandemClocks x, int pairs, int groups, int greatest) {

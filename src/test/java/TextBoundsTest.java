@@ -12,6 +12,7 @@ public final class TextBoundsTest {
         promise11ChangesNothing();
         promise12OneAfterTheOther();
         promise12AsTheCallsDo();
+        promise12MovesAsMoveDoes();
         promise12UpToTheFirstThatThrows();
         promise12ClearsTheBuffer();
         promise12AsOneCall();
@@ -174,6 +175,19 @@ public final class TextBoundsTest {
             Checks.due("count " + what, x.count(what), by.count(what));
         }
         Checks.due("one saved state", x.count(9), 1);
+    }
+
+    private static void promise12MovesAsMoveDoes() {
+        Bounds.hold("Promise 12", "Does the orders in the buffer as kick(), move(), wind() and pass() do");
+        TandemClocks x = Bounds.inOneRow(0);
+        x.pass(9);
+        Checks.write(x, "b72;b70;b31;w0;k0+1");
+        Checks.due("obey", x.obey(), 5);
+        Checks.due("near for 0 ticks, moved and moved back", x.pair(0, 7, 1), 0);
+        Checks.due("near for 0 ticks, moved", x.pair(3, 0, 1), 0);
+        Checks.due("near as before, wound and kicked", x.pair(0, 6, 1), 9);
+        x.undo();
+        Checks.due("near as before, undone", x.pair(0, 7, 1), 9);
     }
 
     private static void promise12UpToTheFirstThatThrows() {

@@ -272,28 +272,68 @@ public final class TextTermsBoundsTest {
         Checks.due("undo of goBack", y.undo(), 0);
     }
 
+    /** Every number of every clock, of the pairs, of the beams and of all is changed, then restored. */
     private static void savedWhatIsCounted() {
         Bounds.hold(TERMS, "all, also what is counted so far");
-        TandemClocks x = Bounds.rich();
-        x.pass(3);
-        x.kick(5, -7);
-        x.pass(200);
+        TandemClocks x = allChanged();
+        x.keep();
+        Checks.write(x, "k0+5;k1+5;k2+5;k3+5;k4+5;k5+5;k6+5;k7+5;b01;b02;t99");
+        x.obey();
         x.undo();
-        x.kick(1, 1);
-        x.undo();
-        TandemClocks same = Bounds.rich();
-        same.pass(3);
-        same.kick(5, -7);
-        for (int what = 0; what < 9; what++) {
-            Checks.due("count " + what, x.count(what), same.count(what));
-        }
+        dueSame("undo", x, allChanged());
+        TandemClocks back = allChanged();
+        back.keep();
         for (int clock = 0; clock < 8; clock++) {
-            for (int what = 0; what <= 10; what++) {
-                Checks.due("number " + what + " of " + clock, x.clock(clock, what), same.clock(clock, what));
+            back.move(clock, back.clock(clock, 0) == 0 ? 2 : 0);
+            back.kick(clock, -77);
+            back.wind(clock);
+            back.speed(clock, 10);
+        }
+        for (int k = 0; k < 3; k++) {
+            back.give(k, 13);
+            back.set(k, 23);
+        }
+        back.pass(111);
+        back.goBack();
+        dueSame("goBack", back, allChanged());
+    }
+
+    private static TandemClocks allChanged() {
+        TandemClocks x = Bounds.inOneRow(0);
+        for (int clock = 0; clock < 8; clock++) {
+            x.kick(clock, 3 * clock + 1);
+        }
+        for (int beam = 0; beam < 3; beam++) {
+            x.give(beam, beam + 1);
+        }
+        x.pass(200);
+        x.move(1, 2);
+        x.wind(7);
+        x.set(0, 10);
+        x.set(1, 60);
+        x.set(2, 9);
+        x.pass(40);
+        return x;
+    }
+
+    private static void dueSame(String what, TandemClocks x, TandemClocks same) {
+        for (int clock = 0; clock < 8; clock++) {
+            for (int number = 0; number <= 10; number++) {
+                Checks.due(what + ", number " + number + " of " + clock, x.clock(clock, number), same.clock(clock, number));
+            }
+            for (int other = 0; other < 8; other++) {
+                if (other != clock) {
+                    Checks.due(what + ", ticks near", x.pair(clock, other, 1), same.pair(clock, other, 1));
+                }
             }
         }
-        Checks.due("kicks", x.count(7), 3);
-        Checks.due("ticks", x.count(0), 70);
+        for (int k = 0; k < 3; k++) {
+            Checks.due(what + ", give", x.beam(k, 0), same.beam(k, 0));
+            Checks.due(what + ", setting", x.setting(k), same.setting(k));
+        }
+        for (int number = 0; number <= 8; number++) {
+            Checks.due(what + ", count " + number, x.count(number), same.count(number));
+        }
     }
 
     private static void savedButTheBufferAndTheSnapshot() {
