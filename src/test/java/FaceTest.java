@@ -10,47 +10,120 @@ import java.util.ArrayList;
 import java.util.Arrays;
 import java.util.List;
 import java.util.TreeSet;
+import java.util.regex.Matcher;
+import java.util.regex.Pattern;
 
 /** The public face of the document, the words that LANGUAGE.md leaves, and the room that calls take. */
 public final class FaceTest {
-    private static final String[] FACE = {
-        "int pass(int) IllegalArgumentException",
-        "int kick(int,int) IndexOutOfBoundsException IllegalArgumentException",
-        "int move(int,int) IndexOutOfBoundsException IllegalStateException",
-        "int wind(int) IndexOutOfBoundsException",
-        "int speed(int,int) IndexOutOfBoundsException IllegalArgumentException",
-        "int give(int,int) IndexOutOfBoundsException IllegalArgumentException",
-        "int set(int,int) IndexOutOfBoundsException IllegalArgumentException",
-        "int append(int) IllegalArgumentException IllegalStateException",
-        "int clearBuffer()",
-        "int firstError()",
-        "int obey() IllegalArgumentException",
-        "int keep()",
-        "int goBack() IllegalStateException",
-        "int undo() IllegalStateException",
-        "int clock(int,int) IndexOutOfBoundsException IllegalArgumentException",
-        "int pair(int,int,int) IndexOutOfBoundsException IllegalArgumentException",
-        "int beam(int,int) IndexOutOfBoundsException IllegalArgumentException",
-        "int count(int) IllegalArgumentException",
-        "int setting(int) IndexOutOfBoundsException",
-        "int ifPassed(int,int,int) IndexOutOfBoundsException IllegalArgumentException",
-        "int lockedIn(int,int) IndexOutOfBoundsException",
-        "int bestGive(int) IndexOutOfBoundsException",
-        "int nextStrike()",
-        "double stepShare()",
-        "float meanGap()",
-        "long digest()"};
+    private static final Path SOURCE = Path.of("src/main/java/TandemClocks.java");
+    private static final Path DOCUMENT = Path.of("../shared/DOC.md");
+    private static final Pattern METHOD = Pattern.compile("public (\\w+) (\\w+)\\(([^)]*)\\)(?: throws ([^;]*))?;");
 
     private static final String[] FORBIDDEN = {
         "import ", "package ", "->", "::", "synchronized", "assert", "finally", "catch", "Exact(", "Double.", "Float.",
         "Object ", "String.", "System.out", "Thread", "static {", "@"};
 
+    private static String source;
+    private static String document;
+
     public static void main(String[] args) throws IOException {
+        source = Files.readString(SOURCE);
+        document = Files.readString(DOCUMENT);
+        theFaceAsItIsWritten();
+        headingsOfTheInterface();
+        numbersAreIntegers();
         theFace();
         namesOfTheFaceAreItsOwn();
         theLanguage();
+        theForm();
         theRoom();
+        Checks.under("");
         Checks.end("FaceTest");
+    }
+
+    // ---- the face
+
+    /** The lines of the document's face between the first one, which opens the class, and the last one. */
+    private static List<String> linesOfFace() {
+        int start = document.indexOf("```java\n", document.indexOf("\n## The public face\n")) + "```java\n".length();
+        String[] lines = document.substring(start, document.indexOf("\n```", start)).split("\n");
+        return new ArrayList<>(Arrays.asList(lines).subList(1, lines.length - 1));
+    }
+
+    /** The class has each line of the face, in the order of the document, and each promise has the same line. */
+    private static void theFaceAsItIsWritten() {
+        List<String> lines = linesOfFace();
+        Checks.due("lines of the face", lines.size(), 28);
+        Checks.due("the class line", source.indexOf("public final class TandemClocks {") >= 0 ? 1 : 0, 1);
+        int behind = 0;
+        for (int at = 0; at < lines.size(); at++) {
+            String line = lines.get(at);
+            boolean constant = line.contains("=");
+            int found = source.indexOf("\n" + line.replace(";", constant ? ";\n" : " {\n"), behind);
+            Checks.due("the class has, in its order, '" + line + "'", found >= behind ? 1 : 0, 1);
+            behind = Math.max(behind, found);
+            if (!constant) {
+                dueSignature(at, line.trim().replace("public ", "").replace(";", ""));
+            }
+        }
+    }
+
+    private static void dueSignature(int promise, String signature) {
+        int start = document.indexOf("\n## Promise " + promise + ": ");
+        String told = document.substring(document.indexOf("\n\n", start) + 2, document.length());
+        Checks.due("promise " + promise + " tells of " + signature, told.startsWith("`" + signature + "`: ") ? 1 : 0, 1);
+    }
+
+    private static void headingsOfTheInterface() {
+        Bounds.hold("Terms", "Ahead of the calls `pass`, `kick`, `move`, `wind`, `speed`, `give`, `set` the interface says: ---- changes.");
+        dueHeading("changes", "TandemClocks()", "pass", "kick", "move", "wind", "speed", "give", "set");
+        Bounds.hold("Terms", "Ahead of the calls `append`, `clearBuffer`, `firstError`, `obey`, `keep`, `goBack`, `undo` the interface says: ---- texts, the snapshot.");
+        dueHeading("texts, the snapshot", "set", "append", "clearBuffer", "firstError", "obey", "keep", "goBack", "undo");
+        Bounds.hold("Terms", "Ahead of the calls `clock`, `pair`, `beam`, `count`, `setting` the interface says: ---- looks; nothing is changed.");
+        dueHeading("looks; nothing is changed", "undo", "clock", "pair", "beam", "count", "setting");
+        Bounds.hold("Terms", "Ahead of the calls `ifPassed`, `lockedIn`, `bestGive`, `nextStrike`, `stepShare`, `meanGap`, `digest` the interface says: ---- what would be; nothing is changed.");
+        dueHeading("what would be; nothing is changed", "setting", "ifPassed", "lockedIn", "bestGive", "nextStrike", "stepShare", "meanGap", "digest");
+    }
+
+    /** In the class the heading stands between the call before and these calls, with no other heading among them. */
+    private static void dueHeading(String heading, String before, String... calls) {
+        int at = source.indexOf("    // ---- " + heading + "\n");
+        int next = source.indexOf("    // ---- ", at + 1);
+        Checks.due("the heading behind " + before, at > source.indexOf(" " + before) ? 1 : 0, 1);
+        for (String call : calls) {
+            int place = source.indexOf(" " + call + "(");
+            Checks.due(call + " stands under '" + heading + "'", at >= 0 && at < place && place < next ? 1 : 0, 1);
+        }
+    }
+
+    private static void numbersAreIntegers() {
+        Bounds.hold("Terms", "All numbers are integers, but for two shares.");
+        TreeSet<String> shares = new TreeSet<>();
+        for (Method method : TandemClocks.class.getDeclaredMethods()) {
+            if (Modifier.isPublic(method.getModifiers())) {
+                for (Class<?> type : method.getParameterTypes()) {
+                    Checks.dueText("a parameter of " + method.getName(), type.getName(), "int");
+                }
+                if (method.getReturnType() != int.class && method.getReturnType() != long.class) {
+                    shares.add(method.getReturnType() + " " + method.getName());
+                }
+            }
+        }
+        same("shares", shares, new TreeSet<>(List.of("double stepShare", "float meanGap")));
+        Checks.under("");
+    }
+
+    private static TreeSet<String> methodsOfFace() {
+        TreeSet<String> methods = new TreeSet<>();
+        for (String line : linesOfFace()) {
+            Matcher m = METHOD.matcher(line);
+            if (m.find()) {
+                String types = m.group(3).replaceAll("(\\w+) \\w+", "$1").replace(", ", ",");
+                String thrown = m.group(4) == null ? "" : " " + m.group(4).replace(",", "");
+                methods.add(m.group(1) + " " + m.group(2) + "(" + types + ")" + thrown);
+            }
+        }
+        return methods;
     }
 
     private static void theFace() {
@@ -60,7 +133,7 @@ public final class FaceTest {
                 got.add((Modifier.isPublic(method.getModifiers()) ? "" : "not public ") + told(method));
             }
         }
-        same("methods", got, new TreeSet<>(Arrays.asList(FACE)));
+        same("methods", got, methodsOfFace());
         TreeSet<String> fields = new TreeSet<>();
         for (Field field : TandemClocks.class.getDeclaredFields()) {
             if (!Modifier.isPrivate(field.getModifiers())) {
@@ -96,7 +169,7 @@ public final class FaceTest {
 
     private static void namesOfTheFaceAreItsOwn() {
         List<String> names = new ArrayList<>();
-        for (String method : FACE) {
+        for (String method : methodsOfFace()) {
             names.add(method.substring(method.indexOf(' ') + 1, method.indexOf('(')));
         }
         for (Class<?> inner : TandemClocks.class.getDeclaredClasses()) {
@@ -111,8 +184,9 @@ public final class FaceTest {
         }
     }
 
-    private static void theLanguage() throws IOException {
-        String source = Files.readString(Path.of("src/main/java/TandemClocks.java"));
+    // ---- LANGUAGE.md
+
+    private static void theLanguage() {
         for (String word : FORBIDDEN) {
             Checks.due("'" + word + "' in the class", source.indexOf(word), -1);
         }
@@ -122,6 +196,48 @@ public final class FaceTest {
             }
         }
     }
+
+    /** Rule 11, but for the depth of calls: parameters, classes, their fields, and the lines of a method. */
+    private static void theForm() {
+        List<Class<?>> classes = new ArrayList<>(List.of(TandemClocks.class));
+        classes.addAll(Arrays.asList(TandemClocks.class.getDeclaredClasses()));
+        dueAtMost("classes", classes.size(), 12);
+        for (Class<?> type : classes) {
+            long fields = Arrays.stream(type.getDeclaredFields()).filter(f -> !Modifier.isStatic(f.getModifiers())).count();
+            dueAtMost("fields of " + type, fields, 20);
+            for (Method method : type.getDeclaredMethods()) {
+                dueAtMost("parameters of " + method, method.getParameterCount(), 7);
+            }
+        }
+        linesOfMethods();
+    }
+
+    /** Methods open and close at four spaces, those of the classes inside at eight. */
+    private static void linesOfMethods() {
+        String indent = "    ";
+        int opened = 0;
+        int methods = 0;
+        String[] lines = source.split("\n");
+        for (int at = 0; at < lines.length; at++) {
+            if (lines[at].matches("    private static final class \\w+ \\{")) {
+                indent = "        ";
+            } else if (lines[at].matches(indent + "\\w.*\\).* \\{")) {
+                opened = at;
+            } else if (lines[at].equals(indent + "}")) {
+                methods++;
+                dueAtMost("lines of the method at line " + (opened + 1), at - opened + 1, 60);
+            } else if (lines[at].equals("    }")) {
+                indent = "    ";
+            }
+        }
+        Checks.due("many methods are seen", methods > 100 ? 1 : 0, 1);
+    }
+
+    private static void dueAtMost(String what, long got, long most) {
+        Checks.due(what + ": " + got + ", at most " + most + " are right", got <= most ? 1 : 0, 1);
+    }
+
+    // ---- the room
 
     /** The dearest calls make next to nothing, as all rows are made by the constructor. */
     private static void theRoom() {
