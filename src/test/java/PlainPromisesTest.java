@@ -476,13 +476,17 @@ public final class PlainPromisesTest {
     private static void promise27Values() {
         Bounds.hold("Promise 27", "The values are: count(0) to count(9); the settings 0 to 2; for each clock its numbers 0 to 10; for each pair of clocks, the first one less than the other, by the first one and then by the other, its numbers 0 to 2; for each beam its numbers 0 to 4; ifPassed of 20 ticks for each clock with 0 to 2;");
         Bounds.hold("Promise 27", "Returns the hash.");
-        TandemClocks[] all = {lively(), heldTogether(), lockedOneByOne(), unlikeGives(), unlikeSettings(), struckUnalike()};
-        for (int at = 0; at < all.length; at++) {
-            Checks.due("digest of " + at, all[at].digest(), ForecastTest.digestByLooks(all[at], false, ""));
-            all[at].pass(200);
-            all[at].keep();
-            Checks.write(all[at], "z;4");
-            Checks.due("digest of " + at, all[at].digest(), ForecastTest.digestByLooks(all[at], true, "z;4"));
+        Bounds.Make[] makes = {
+            PlainPromisesTest::lively, PlainPromisesTest::heldTogether, PlainPromisesTest::lockedOneByOne,
+            PlainPromisesTest::unlikeGives, PlainPromisesTest::unlikeSettings, PlainPromisesTest::struckUnalike};
+        for (int at = 0; at < makes.length; at++) {
+            TandemClocks x = makes[at].made();
+            Checks.due("digest of " + at, x.digest(), ForecastTest.digestByLooks(x, false, ""));
+            TandemClocks later = makes[at].made();
+            later.pass(200);
+            later.keep();
+            Checks.write(later, "z;4");
+            Checks.due("digest of " + at + ", later", later.digest(), ForecastTest.digestByLooks(later, true, "z;4"));
         }
     }
 }
