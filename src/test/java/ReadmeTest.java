@@ -83,7 +83,8 @@ public final class ReadmeTest {
 
     /** What the commands print, ahead of their exit code if it is not 0. */
     private static String run(Path place, String commands) throws IOException, InterruptedException {
-        Process process = new ProcessBuilder("sh", "-e", "-c", commands).directory(place.toFile()).redirectErrorStream(true).start();
+        ProcessBuilder shell = new ProcessBuilder("sh", "-e", "-c", commands).directory(place.toFile());
+        Process process = shell.redirectError(ProcessBuilder.Redirect.INHERIT).start();
         String printed = new String(process.getInputStream().readAllBytes(), StandardCharsets.UTF_8);
         int code = process.waitFor();
         return code == 0 ? printed : printed + "exit code " + code;
